@@ -1044,7 +1044,7 @@ public final class KnownWeight {
         }
 
         private void move(int place, int goal, int q) {
-            if (goal >= 0 && goal <= WIDEST) {
+            if (row[place] != 0 && goal >= 0 && goal <= WIDEST) {
                 int moved = (int) ((long) row[place] * q / 100);
                 row[place] -= moved;
                 row[goal] += moved;

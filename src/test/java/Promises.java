@@ -27,6 +27,7 @@ public final class Promises {
         odds();
         scales();
         seedAndImages();
+        fullLand();
         room();
         System.out.println(wrong == 0 ? "all promises are kept" : wrong + " answers are not as due");
         if (wrong != 0) {
@@ -141,8 +142,33 @@ public final class Promises {
         due("told(1)", x.told(1), 0);
         due("weight(1)", x.weight(1), UNKNOWN);
         due("land() of a blank", tellText(x, " "), 0);
+        // the third land is made where the first one was: nothing of it may be left
+        due("land()", tellText(x, "t7;f3 9 1;k0 127;w0 1;m2;m3;b7;g1;"), 7);
+        due("land()", tellText(x, "t1;"), 1);
+        due("land()", tellText(x, "t7;f3 2 0;w5 6;"), 7);
+        int[] left = {7, 1, 1, 0, 0, 0, 0, 0, 0, 0};
+        for (int what = 0; what <= 9; what++) {
+            due("told(" + what + ") of the third", x.told(what), left[what]);
+        }
+        due("person(0, 0) of the third", x.person(0, 0), 0);
+        due("person(3, 1) of the third", x.person(3, 1), 1);
+        due("fact(0, 2) of the third", x.fact(0, 2), 0);
+        due("fact(0, 3) of the third", x.fact(0, 3), 0);
+        due("land()", tellText(x, "t7;f0 1 0;f0 1 0;k0 1;w0 1;"), 7);
+        due("land()", tellText(x, "t7;f1 1 0;f1 1 0;k0 1;w0 1;"), 7);
+        due("person(0, 2) of the fifth", x.person(0, 2), 1);
+        due("land()", tellText(x, "t3;f0 1 0;f0 1 0;f0 1 0;k2 7;"), 3);
+        due("land()", tellText(x, "t3;f0 1 0;k0 4;"), 3);
+        due("person(2, 2): no fact of the land before", x.person(2, 2), 1);
+        due("land()", x.land(), 0);
+        due("land()", tellText(x, "t7;f1 1 0;"), 7);
+        due("person(1, 1) of the last", x.person(1, 1), 1);
+        due("person(0, 1) of the last", x.person(0, 1), 0);
+        due("since(0, 0) of the last", x.since(0, 0), NONE);
         dueGood(" t 3 ; f 0 5 1 ; k 0 7 ; w 0 1 ; m 2 ; b 12 ; g 9 ; ", 3);
         dueGood("t007;f6 009 001;k0 127;w6 000;m006;b999;g099;", 7);
+        dueGood(" ".repeat(247) + "t1;", 1);
+        dueGood("t1;" + " ".repeat(247), 1);
         dueGood("t2;b0;b1;b2;b3;g1;", 2);
         dueGood("t1;f0 1 0;f0 1 0;f0 1 0;f0 1 0;f0 1 0;f0 1 0;f0 1 0;f0 1 0;k7 1;k0 0;", 1);
         dueGood("t7;w0 1;w0 2;w0 3;w0 4;w0 5;w0 6;w1 2;w1 3;w1 4;w1 5;w1 6;w2 3;", 7);
@@ -167,6 +193,8 @@ public final class Promises {
         dueFault("t2;f0 5 0", 1, 9);
         dueFault("t2;q", 1, 3);
         dueFault("t2;5;", 1, 3);
+        dueFault("t1;" + " ".repeat(246) + "b", 1, 250);
+        dueFault("t1;" + " ".repeat(245) + "b9", 1, 250);
         dueFault("t0;", 2, 1);
         dueFault("t8", 2, 1);
         dueFault("t0002;", 2, 1);
@@ -373,6 +401,14 @@ public final class Promises {
         due("land()", tellText(x, "t3;"), 3);
         due("drift(1): no facts, one draw", x.drift(1), 1);
         due("seed(0)", x.seed(0), 12345);
+        KnownWeight y = of("t7;f0 1 0;f0 1 0;f6 2 0;");
+        due("hour(4)", y.hour(4), 4);
+        due("seed(2)", y.seed(2), 0);
+        // 59559187 / 65536 is 908, of 7: 5; 1495354192 / 65536 is 22817, of 3: 2
+        due("drift(1): 5 has fact 2 since hour 4", y.drift(1), 5);
+        due("since(5, 2)", y.since(5, 2), 4);
+        due("weight(6)", y.weight(6), 2);
+        due("told(8)", y.told(8), 1);
     }
 
     private static void heavyAndWhen() {
@@ -396,6 +432,9 @@ public final class Promises {
         KnownWeight never = of("t2;f0 5 0;k0 2;b4;b5;");
         due("when(0, 0)", never.when(0, 0), NONE);
         due("when(0, 1): at most", never.when(0, 1), 0);
+        promise = 15;
+        due("heavy(0, 99)", never.heavy(0, 99), 5);
+        promise = 16;
         KnownWeight late = of("t2;f0 5 0;k0 2;b4;g99;");
         due("when(0, 0): the last hour", late.when(0, 0), 99);
     }
@@ -521,6 +560,10 @@ public final class Promises {
         due("apart(0, 6, 0)", x.apart(0, 6, 0), UNKNOWN);
         KnownWeight quiet = of("t2;f0 1 0;k0 2;w0 1;m1;");
         due("apart(0, 0, 0): he who has it keeps quiet", quiet.apart(0, 0, 0), 0);
+        KnownWeight chain = of("t4;f0 1 0;k0 1;w2 3;w1 2;w0 1;");
+        due("apart(0, 3, 1): of three ways the least", chain.apart(0, 3, 1), 1);
+        KnownWeight back = of("t4;f0 1 0;k0 8;w2 3;w1 2;w0 1;");
+        due("apart(0, 0, 1): whatever side it comes from", back.apart(0, 0, 1), 1);
     }
 
     private static void treaty() {
@@ -557,6 +600,10 @@ public final class Promises {
         due("odds(0, 3, 101)", x.odds(0, 3, 101), UNKNOWN);
         due("odds(0, 0, 101)", x.odds(0, 0, 101), OUTSIDE);
         due("odds(0, 0, -1)", x.odds(0, 0, -1), OUTSIDE);
+        KnownWeight lies = of("t7;f0 9 1;f0 9 1;k0 126;k1 126;b0;");
+        due("odds(0, 0, 100): -108 comes to 0", lies.odds(0, 0, 100), 1000000000);
+        KnownWeight both = of("t2;f0 3 1;f0 5 0;k0 2;k1 2;b2;");
+        due("odds(0, 0, 50): but for 5 with the lie forgotten", both.odds(0, 0, 50), 750000000);
         // of a billion 1% five times: 10000000, 100000, 1000, 10, and 0 of 10 (cut)
         KnownWeight cut = of("t6;f0 1 0;k0 62;b0;b1;");
         due("odds(0, 0, 1)", cut.odds(0, 0, 1), 0);
@@ -623,6 +670,11 @@ public final class Promises {
         due("forget(0, 0)", x.forget(0, 0), 1);
         due("goBack(1): the image stays", x.goBack(1), 1);
         due("since(0, 0)", x.since(0, 0), 2);
+        due("forget(1, 0)", x.forget(1, 0), 0);
+        due("tell(1, 0)", x.tell(1, 0), 1);
+        due("since(1, 0)", x.since(1, 0), 2);
+        due("goBack(1): since when, too", x.goBack(1), 1);
+        due("since(1, 0)", x.since(1, 0), 0);
         due("keep(0)", x.keep(0), 1);
         due("forget(1, 0)", x.forget(1, 0), 0);
         due("keep(1): another one", x.keep(1), 1);
@@ -630,6 +682,55 @@ public final class Promises {
         due("weight(0)", x.weight(0), 4);
         due("goBack(1)", x.goBack(1), 1);
         due("weight(0)", x.weight(0), 0);
+    }
+
+    /** As much of everything as a land may have: 7 people, 8 facts in all other heads, 4 bridges. */
+    private static void fullLand() {
+        String facts = "f0 9 0;".repeat(8);
+        StringBuilder text = new StringBuilder("t7;").append(facts);
+        for (int f = 0; f < 8; f++) {
+            text.append("k").append(f).append(" 126;");
+        }
+        KnownWeight x = of(text + "b0;b431;b432;b999;w0 6;w0 5;w5 6;");
+        promise = 9;
+        due("weight(0)", x.weight(0), 432);
+        promise = 5;
+        due("told(8)", x.told(8), 48);
+        promise = 13;
+        due("hour(1): 5 and 6 tell 0 fact 0", x.hour(1), 1);
+        due("person(0, 2)", x.person(0, 2), 1);
+        due("hour(99)", x.hour(99), 100);
+        due("person(0, 2)", x.person(0, 2), 255);
+        promise = 17;
+        due("least(127, 0, -1)", x.least(127, 0, -1), 48);
+        due("least(127, 0, 7)", x.least(127, 0, 7), 6);
+        due("least(127, 1, 0)", x.least(127, 1, 0), 1);
+        promise = 18;
+        due("trips(127, 2, -1)", x.trips(127, 2, -1), 1);
+        due("trips(127, 2, 0)", x.trips(127, 2, 0), 127);
+        due("trips(127, 1, -1)", x.trips(127, 1, -1), NONE);
+        promise = 19;
+        due("counted(0, 432, 7, 1)", x.counted(0, 432, 7, 1), 6);
+        due("counted(0, 0, 7, 1)", x.counted(0, 0, 7, 1), 0);
+        promise = 20;
+        due("lies(0, 0, 0): half of the eight", x.lies(0, 0, 0), 70);
+        due("lies(0, 0, 1)", x.lies(0, 0, 1), 15);
+        due("lies(0, -432, 2)", x.lies(0, -432, 2), 255);
+        promise = 21;
+        due("apart(0, 0, 0)", x.apart(0, 0, 0), NOT);
+        promise = 23;
+        due("odds(0, 0, 100)", x.odds(0, 0, 100), 1000000000);
+        due("odds(0, 2, 0)", x.odds(0, 2, 0), 1000000000);
+        due("odds(0, 1, 0)", x.odds(0, 1, 0), 0);
+        promise = 14;
+        due("drift(99)", x.drift(99), 199);
+        KnownWeight of = of(text.toString().replace("f0 9 0", "f0 9 1"));
+        promise = 9;
+        due("weight(0)", of.weight(0), -432);
+        promise = 19;
+        due("counted(0, -432, -1, 0)", of.counted(0, -432, -1, 0), 1);
+        due("counted(0, -432, 7, 0)", of.counted(0, -432, 7, 0), 6);
+        due("counted(0, -433, 7, 0)", of.counted(0, -433, 7, 0), NONE);
     }
 
     /** All calls of a run live in one room, so a call should make nothing at all. */
