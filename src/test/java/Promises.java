@@ -16,6 +16,7 @@ public final class Promises {
         tellAndForget();
         hour();
         hourForgets();
+        tooManyHours();
         drift();
         heavyAndWhen();
         least();
@@ -381,6 +382,23 @@ public final class Promises {
         due("tell(1, 0)", one.tell(1, 0), 1);
         due("hour(1)", one.hour(1), 2);
         due("fact(0, 3)", one.fact(0, 3), 0);
+    }
+
+    /** Takes more calls than an object is promised for; FULL cannot be reached with fewer. */
+    private static void tooManyHours() {
+        promise = 13;
+        KnownWeight x = of("t1;");
+        for (int k = 1; k <= 909; k++) {
+            due("hour(99)", x.hour(99), 99 * k);
+        }
+        due("hour(9)", x.hour(9), 90000);
+        due("hour(1): not above 90000 yet", x.hour(1), 90001);
+        due("hour(1)", x.hour(1), FULL);
+        due("hour(0)", x.hour(0), OUTSIDE);
+        promise = 14;
+        due("drift(1)", x.drift(1), FULL);
+        due("drift(100)", x.drift(100), OUTSIDE);
+        due("told(6)", x.told(6), 90001);
     }
 
     private static void drift() {
