@@ -44,9 +44,6 @@ public final class KnownWeight {
         if (letter < 0 || letter > 255) {
             return OUTSIDE;
         }
-        if (text.length >= MOST_LETTERS) {
-            return FULL;
-        }
         return text.add(letter);
     }
 
@@ -375,9 +372,6 @@ public final class KnownWeight {
         if (!canWeigh(w)) {
             return OUTSIDE;
         }
-        if (scales.count >= MOST_SCALES) {
-            return FULL;
-        }
         return scales.add(p, w);
     }
 
@@ -492,6 +486,7 @@ public final class KnownWeight {
             return isLie(f) ? -grams[f] : grams[f];
         }
 
+        /** Only behind the tests that there is room and such a person. */
         void addFact(int p, int weighs, int lie) {
             owner[facts] = p;
             grams[facts] = weighs;
@@ -500,6 +495,7 @@ public final class KnownWeight {
             facts++;
         }
 
+        /** Only behind the tests that there is room and such people. */
         void addFriendship(int a, int b) {
             oneFriend[friendships] = a;
             otherFriend[friendships] = b;
@@ -540,6 +536,9 @@ public final class KnownWeight {
         private int numberPlace;
 
         int add(int letter) {
+            if (length >= MOST_LETTERS) {
+                return FULL;
+            }
             letters[length] = letter;
             length++;
             return length;
@@ -873,6 +872,9 @@ public final class KnownWeight {
         private final int[] grams = new int[MOST_SCALES];
 
         int add(int p, int w) {
+            if (count >= MOST_SCALES) {
+                return FULL;
+            }
             whom[count] = p;
             grams[count] = w;
             count++;
