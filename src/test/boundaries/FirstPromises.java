@@ -97,20 +97,23 @@ final class FirstPromises {
 
     /** Nothing of a land is left in the next ones, whatever they have. */
     private static void mostAndLeast() {
-        Subject x = Subject.of(MOST);
+        Subject x = Subject.of(MOST.replace("f0 9 0;", "f0 9 1;"));
         x.due("hour 2", 2);
+        x.due("forget 1 0", 5);
+        x.due("tell 1 0", 6);
         x.feedAll("t1;");
         x.due("land", 1);
         x.dueRow("told", 1, 0, 0, 0, 0, 0, 0, 0, 0, 0);
         x.dueRow("person 0", 0, 0, 0, 0);
         x.due("weight 0", 0);
-        x.feedAll("t7;f6 1 0;f6 1 0;w5 6;");
+        x.feedAll("t7;f6 1 0;f6 1 0;k0 2;w5 6;");
         x.due("land", 7);
-        x.dueRow("told", 7, 2, 1, 0, 0, 0, 0, 0, 0, 0);
-        x.dueRow("fact 0", 6, 1, 0, 0, 0);
+        x.dueRow("told", 7, 2, 1, 0, 0, 0, 0, 0, 1, 0);
+        x.dueRow("fact 0", 6, 1, 0, 2, 1);
+        x.dueRow("fact 1", 6, 1, 0, 0, 0);
         x.dueRow("person 0", 0, 0, 0, 0);
         x.dueRow("person 6", 32, 3, 0, 0);
-        x.dueRow("since 1", NONE, NONE);
+        x.dueRow("since 1", 0, NONE);
     }
 
     private static void landWithFault() {
@@ -312,6 +315,11 @@ final class FirstPromises {
         same.due("since 2 0", 2);
         same.due("hour 99", 101);
         same.due("told 6", 101);
+        // with the 512th call of an object, the last one that is promised
+        Subject last = Subject.of("t1;");
+        for (int k = 1; k <= 508; k++) {
+            last.due("hour 99", 99 * k);
+        }
         Doc.sentence("OUTSIDE, NOT: no PEOPLE;");
         x.dueBounds("hour #", 1, 99);
         Subject empty = new Subject();

@@ -178,6 +178,10 @@ final class Hours {
         twice.due("since 2 0", 1);
         twice.due("hour 1", 2);
         twice.due("fact 0 3", 15);
+        // 0 tells 2 what 1 tells 3
+        Subject apart = Subject.of("t4;f0 1 0;k0 3;w0 2;w1 3;");
+        apart.due("hour 1", 1);
+        apart.due("fact 0 3", 15);
         // two tell each other
         Subject cross = Subject.of("t2;f0 1 0;f1 1 0;k0 1;k1 2;w0 1;");
         cross.due("hour 1", 1);

@@ -131,6 +131,7 @@ final class LandTold {
         Doc.sentence("each once; untold: by nobody)");
         fault("t2;f0 1 0;k0 0;k0 0;", 4, 16);
         fault("t2;f0 1 0;k0 3;k0 3;", 4, 16);
+        fault("t1;f0 1 0;f0 1 0;k0 0;k1 0;k0 0;", 4, 28);
         good("t2;f0 1 0;f0 1 0;k0 3;k1 3;", 2);
         Subject x = Subject.of("t7;f0 1 0;f0 1 0;k1 127;");
         x.due("fact 0 3", 0);

@@ -14,6 +14,7 @@ final class Tried {
         least();
         leastAtItsEnds();
         trips();
+        tripsOfUnlikeWeights();
         tripsWithLies();
         counted();
         lies();
@@ -69,6 +70,13 @@ final class Tried {
         late.due("hour 1", 1);
         late.due("when 0 0", 99);
         late.due("when 0 1", 98);
+        // by what was heard in a later hour, too
+        Subject heard = Subject.of("t2;f0 5 0;b0;g3;");
+        heard.due("hour 5", 5);
+        heard.due("tell 1 0", 1);
+        heard.due("heavy 0 2", 5);
+        heard.due("heavy 0 3", 0);
+        heard.due("when 0 0", 3);
         Subject below = Subject.of("t2;f0 9 1;k0 2;b0;");
         below.due("when 0 0", 0);
         Subject never = Subject.of("t2;f0 1 0;k0 2;b0;");
@@ -123,6 +131,11 @@ final class Tried {
         all.due("least 126 0 -1", 0);
         all.due("least 0 0 -1", 0);
         all.due("least 0 0 0", 0);
+        Subject light = Subject.of("t3;f0 1 0;f0 9 0;k0 6;k1 6;b0;b1;b18;b19;");
+        light.dueRow("least 1 0", 2, 2);
+        light.dueRow("least 1 1", 1, 2);
+        light.dueRow("least 1 2", 0, 1);
+        light.dueRow("least 1 3", 0, 1);
         // his own head does not count
         Subject own = Subject.of("t2;f0 4 0;k0 3;b0;");
         own.due("least 1 0 -1", 1);
@@ -153,6 +166,13 @@ final class Tried {
         x.due("trips 0 0 -1", 0);
         x.due("trips 0 1 -1", 0);
         x.dueRow("trips 0 0", NONE, NONE);
+    }
+
+    private static void tripsOfUnlikeWeights() {
+        // 6, 6, 4, 4: the least ones that go together, or go alone, leave too much
+        Subject x = Subject.of("t4;f0 6 0;f1 6 0;f2 4 0;f3 4 0;k0 2;k1 1;k2 1;k3 1;b10;");
+        x.due("trips 15 0 -1", 2);
+        x.dueRow("trips 15 0", 5, 10, NONE);
     }
 
     private static void tripsWithLies() {
@@ -276,6 +296,12 @@ final class Tried {
         full.dueRow("treaty 1 0", 36, 15, 240);
         full.due("forget 0 4", 0);
         full.dueRow("treaty 0 1", 27, 224, 7);
+        Subject one = Subject.of("t2;f0 1 0;f1 1 0;k0 2;k1 1;");
+        one.dueRow("treaty 0 1", 1, 2, 1);
+        // all that there is on one side, nothing on the other
+        Subject onesided = Subject.of("t2;" + "f1 9 0;".repeat(8) + "k0 1;k1 1;k2 1;k3 1;k4 1;k5 1;k6 1;k7 1;");
+        onesided.dueRow("treaty 0 1", 0, 0, 0);
+        onesided.dueRow("treaty 1 0", 0, 0, 0);
         Subject lie = Subject.of("t2;f0 3 1;f1 3 0;k0 2;k1 1;");
         lie.dueRow("treaty 0 1", 0, 0, 0);
         // each has only what is of himself
@@ -316,6 +342,10 @@ final class Tried {
         most.due("odds 0 0 100", BILLION);
         most.due("odds 0 1 0", 0);
         most.due("odds 0 2 0", BILLION);
+        // a lie comes first: above 2 only by 5 with the lie forgotten
+        Subject lieFirst = Subject.of("t2;f0 3 1;f0 5 0;k0 2;k1 2;b2;b1;");
+        lieFirst.due("odds 0 0 50", BILLION - BILLION / 4);
+        lieFirst.due("odds 0 1 50", BILLION / 2);
         Subject lies = Subject.of("t7;" + "f0 9 1;".repeat(8) + "k0 126;k1 126;k2 126;k3 126;k4 126;k5 126;k6 126;k7 126;b0;");
         lies.due("odds 0 0 0", BILLION);
         lies.due("odds 0 0 100", BILLION);
@@ -386,6 +416,14 @@ final class Tried {
         x.due("drift 1", 3);
         x.due("since 0 0", 2);
         x.due("seed 0", 12345);
+        // the seeds from which it becomes 65535 and 65536
+        Subject cut = Subject.of("t7;f6 1 0;");
+        cut.call("seed 2032319262");
+        cut.due("drift 1", 1);
+        cut.due("fact 0 3", 1);
+        cut.call("seed 1742513795");
+        cut.due("drift 1", 2);
+        cut.due("fact 0 3", 3);
         Subject one = Subject.of("t1;f0 1 0;");
         one.due("drift 1", 1);
         one.due("since 0 0", 0);
@@ -417,7 +455,10 @@ final class Tried {
         x.due("seed 8", 0);
         x.due("keep 1", 1);
         x.due("forget 1 0", 0);
+        x.due("forget 0 0", 0);
         x.due("hour 1", 4);
+        x.due("tell 0 0", 0);
+        x.due("tell 1 0", 1);
         x.due("seed 9", 8);
         x.due("goBack 0", 1);
         x.dueEach(0, "since 1 0", "told 6", "seed 5");
