@@ -569,8 +569,8 @@ public final class KnownWeight {
             return place >= 0 && place < length ? letters[place] : NONE;
         }
 
-        private boolean isFigureHere() {
-            return letterHere() >= '0' && letterHere() <= '9';
+        private static boolean isFigure(int letter) {
+            return letter >= '0' && letter <= '9';
         }
 
         private void skipBlanks() {
@@ -627,12 +627,12 @@ public final class KnownWeight {
         private int readNumber(int low, int high) {
             skipBlanks();
             numberPlace = place;
-            if (!isFigureHere()) {
+            if (!isFigure(letterHere())) {
                 blame(CANNOT_STAND, place);
                 return NONE;
             }
             int value = 0;
-            while (place < length && isFigureHere()) {
+            while (place < length && isFigure(letterHere())) {
                 // from the fourth figure on it is a fault anyway, and must not run over
                 value = place - numberPlace < 3 ? value * 10 + letterHere() - '0' : value;
                 place++;
@@ -1018,7 +1018,7 @@ public final class KnownWeight {
         void spread(Land land, Heads heads, int p, int q) {
             int his = land.factsOf[p];
             lowest = -heads.gramsOf(land, his & land.lieFacts);
-            from = heads.gramsOf(land, his & ~land.lieFacts);
+            from = Math.min(WIDEST, heads.gramsOf(land, his & ~land.lieFacts));
             to = from;
             Arrays.fill(row, 0);
             row[from] = BILLION;
@@ -1097,7 +1097,7 @@ public final class KnownWeight {
             for (int f = 0; f < land.facts; f++) {
                 sum += (part >> f & 1) * land.grams[f];
             }
-            return sum;
+            return Math.min(MOST_GRAMS_A_HEAD, sum);
         }
     }
 }
