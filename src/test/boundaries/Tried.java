@@ -338,6 +338,12 @@ final class Tried {
         cut.due("odds 0 0 99", BILLION - 1);
         cut.due("odds 0 0 0", 0);
         cut.due("odds 0 1 100", BILLION);
+        // what is there is all that weighs alike: behind nine heads C(9, k) times 1953125 with k forgotten, of which the tenth
+        // halves 126 times 1953125 (k = 4) without a cut; cut by each way that came there it would be 63 less
+        Subject alike = Subject.of("t6;f0 1 0;f0 1 0;k0 62;k1 62;b5;b9;b0;");
+        alike.due("odds 0 0 50", BILLION / 2 + 63 * 1953125);
+        alike.due("odds 0 1 50", BILLION - 976563);
+        alike.due("odds 0 2 50", 976562);
         Subject most = Subject.of("t7;" + "f0 9 0;".repeat(8) + "k0 126;k1 126;k2 126;k3 126;k4 126;k5 126;k6 126;k7 126;b0;b431;b432;");
         most.due("odds 0 0 100", BILLION);
         most.due("odds 0 1 0", 0);
